@@ -2,6 +2,7 @@
 public final class ModelTest {
     private static final int RUNS = 1500;
     private static final int CALLS = 512;
+    private static final int CROWDED_YARDS = 4000;
 
     private final Check check;
     private DockyardSlots x;
@@ -19,6 +20,9 @@ public final class ModelTest {
         ModelTest test = new ModelTest(check);
         for (int i = 0; i < RUNS; i++) {
             test.runOnce(i);
+        }
+        for (int i = 0; i < CROWDED_YARDS; i++) {
+            test.crowdOnce(i);
         }
         check.end();
     }
@@ -62,6 +66,33 @@ public final class ModelTest {
                     ask(choice);
                 }
             }
+        }
+    }
+
+    /** Yards with so little room that the fewest moves are often more than the blockers. */
+    private void crowdOnce(int number) {
+        seed = number * 104729L + 5;
+        x = new DockyardSlots();
+        model = new YardModel();
+        run = "crowded yard " + number + ": ";
+        for (int i = 0; i < 4; i++) {
+            int capacity = i == 0 ? 3 : 1 + below(3);
+            boolean power = i < 2 || below(3) == 0;
+            compare("addLane", model.addLane(capacity, power), () -> x.addLane(capacity, power));
+        }
+        for (int i = 0; i < 6; i++) {
+            int t = i;
+            char kind = "dc".charAt(below(2));
+            compare("book", model.book(0, kind, 1), () -> x.book(0, kind, 1));
+            int lane = i < 3 ? 0 : 1 + below(3);
+            compare("arrive", model.arrive(t, lane), () -> x.arrive(t, lane));
+        }
+        for (int i = 0; i < 6; i++) {
+            int t = i;
+            compare("fewestMoves " + t, model.fewestMoves(t), () -> x.fewestMoves(t));
+            compare("fewestByOrders " + t, model.fewestMoves(t), () -> x.fewestByOrders(t));
+            compare("laneOf " + t, model.laneOf(t), () -> x.laneOf(t));
+            compare("blockers " + t, model.blockers(t), () -> x.blockers(t));
         }
     }
 
