@@ -90,7 +90,7 @@ public final class ModelTest {
         for (int i = 0; i < 6; i++) {
             int t = i;
             compare("fewestMoves " + t, model.fewestMoves(t), () -> x.fewestMoves(t));
-            compare("fewestByOrders " + t, model.fewestMoves(t), () -> x.fewestByOrders(t));
+            compare("fewestByOrders " + t, model.fewestByOrders(t), () -> x.fewestByOrders(t));
             compare("laneOf " + t, model.laneOf(t), () -> x.laneOf(t));
             compare("blockers " + t, model.blockers(t), () -> x.blockers(t));
         }
@@ -175,12 +175,12 @@ public final class ModelTest {
             compare("freeDoor " + t, model.freeDoor(t), () -> x.freeDoor(t));
         } else if (choice < 78) {
             compare("fewestMoves " + t, model.fewestMoves(t), () -> x.fewestMoves(t));
-            compare("fewestByOrders " + t, model.fewestMoves(t), () -> x.fewestByOrders(t));
+            compare("fewestByOrders " + t, model.fewestByOrders(t), () -> x.fewestByOrders(t));
         } else if (choice < 82) {
             compare("waited " + t, model.waited(t), () -> x.waited(t));
         } else if (choice < 88) {
             compare("charge " + t, model.charge(t), () -> x.charge(t));
-            compare("chargeByHours " + t, model.charge(t), () -> x.chargeByHours(t));
+            compare("chargeByHours " + t, model.chargeByHours(t), () -> x.chargeByHours(t));
         } else {
             askOfAll(choice);
         }

@@ -313,6 +313,10 @@ final class YardModel {
         return UOE;
     }
 
+    String fewestByOrders(int t) {
+        return fewestMoves(t);
+    }
+
     private List<List<String>> neighbours(List<String> yard) {
         List<List<String>> result = new ArrayList<>();
         for (int from = 0; from < yard.size(); from++) {
@@ -379,6 +383,10 @@ final class YardModel {
             sum += h <= rates[0] ? 0 : h <= rates[0] + rates[2] ? rates[1] : rates[3];
         }
         return text(sum);
+    }
+
+    String chargeByHours(int t) {
+        return charge(t);
     }
 
     String moves() {
